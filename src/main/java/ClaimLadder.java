@@ -645,6 +645,7 @@ public final class ClaimLadder {
         final int[] most;
         final int[] paid;
         final int[] back;
+        final int[] ringFirst;
         final int[] ringBits;
         final int[] ringRung;
         final int[] ringLeft;
@@ -662,6 +663,7 @@ public final class ClaimLadder {
             most = new int[MAX_CONTRACTS];
             paid = new int[MAX_CONTRACTS];
             back = new int[MAX_CONTRACTS];
+            ringFirst = new int[MAX_CONTRACTS];
             ringBits = new int[MAX_CONTRACTS];
             ringRung = new int[MAX_CONTRACTS];
             ringLeft = new int[MAX_CONTRACTS];
@@ -744,6 +746,7 @@ public final class ClaimLadder {
                 for (int c = 0; c < setup.size; c++) {
                     boolean isLeast = (ringWith[c] & (1 << c) - 1) == 0;
                     if (isLeast && rungOf[c] == rung && rings < MAX_CONTRACTS) {
+                        ringFirst[rings] = c;
                         ringBits[rings] = ringWith[c];
                         ringRung[rings] = rung;
                         rings++;
@@ -763,17 +766,26 @@ public final class ClaimLadder {
         void payAt(int loss) {
             int left = loss;
             for (int k = 0; k < rings; k++) {
-                for (int c = 0; c < setup.size; c++) {
-                    if (has(ringBits[k], c)) {
-                        most[c] = isEscaped(c) ? 0 : mostOf(c, left);
-                    }
-                }
                 ringLeft[k] = left;
-                ringPaid[k] = deal(left, ringBits[k], most, paid);
+                ringPaid[k] = isAlone(ringFirst[k]) ? payAlone(ringFirst[k], left) : payByTurns(ringBits[k], left);
                 left -= ringPaid[k];
             }
             paidInAll = loss - left;
             over = left;
+        }
+
+        private int payAlone(int c, int left) {
+            paid[c] = isEscaped(c) ? 0 : mostOf(c, left);
+            return paid[c];
+        }
+
+        private int payByTurns(int bits, int left) {
+            for (int c = 0; c < setup.size; c++) {
+                if (has(bits, c)) {
+                    most[c] = mostOf(c, left);
+                }
+            }
+            return deal(left, bits, most, paid);
         }
 
         private boolean isAlone(int c) {

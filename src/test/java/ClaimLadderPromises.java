@@ -100,6 +100,8 @@ public final class ClaimLadderPromises {
         peek();
         shift();
         shiftRefusals();
+        sixContracts();
+        onesAndFirsts();
         System.out.println(looks + " answers looked at, " + wrong + " not as due");
         if (wrong != 0) {
             System.exit(1);
@@ -277,6 +279,14 @@ public final class ClaimLadderPromises {
             due(8, "fault of '" + texts[i] + "'", read(x, texts[i]), -10 - places[i]);
             due(8, "text is empty behind '" + texts[i] + "'", x.count(3), 0);
         }
+        String[] longer = {"c030,5;l1", "l1;l22", "q0100", "r01;", "l100"};
+        String[] shorter = {"c030", "l1;", "q0", "r0", "l"};
+        int[] ends = {4, 3, 2, 2, 1};
+        for (int i = 0; i < longer.length; i++) {
+            ClaimLadder y = new ClaimLadder();
+            read(y, longer[i]);
+            due(8, "'" + shorter[i] + "' behind '" + longer[i] + "'", read(y, shorter[i]), -10 - ends[i]);
+        }
         due(8, "a thirteenth", read(x, "l1;l2;l3;l4;l5;l6;l7;l8;l9;l1;l2;l3;l4"), -45);
         due(8, "a sign behind the twelfth", read(x, "l1;l2;l3;l4;l5;l6;l7;l8;l9;l1;l2;l3;"), -45);
         dueRow(8, "nothing was done", new long[] {x.told(0), x.told(1)}, 0, 0);
@@ -350,6 +360,9 @@ public final class ClaimLadderPromises {
         ClaimLadder y = with("c02,0;c02,0;c099,0;c099,0;r01;r12;r23;r30;l11");
         // two rounds for all, then 2 and 3 by turns
         dueRow(10, "some drop out", paid(y), 2, 2, 4, 3);
+        y.loss(16);
+        dueRow(10, "the others go on alike", paid(y), 2, 2, 6, 6);
+        y.loss(11);
         y.renew(2, 0, WHOLE);
         y.renew(2, 2, 11);
         dueRow(10, "whole: only above its retention", paid(y), 2, 2, 0, 7);
@@ -845,5 +858,71 @@ public final class ClaimLadderPromises {
             due(31, "shift(0, " + p[0] + ", 2, " + p[1] + ", " + p[2] + ")", x.shift(0, p[0], 2, p[1], p[2]), PLACE);
         }
         dueRow(31, "nothing has changed", items(x, 2, 3), 0, 0, 0);
+    }
+
+    /** Rows as long as they get: six rings, each a rung above the one before it. */
+    private static void sixContracts() {
+        ClaimLadder x = with("c010,0;c010,0;c010,0;c010,0;c010,0;c010,0;r54;r43;r32;r21;r10;l55");
+        dueRow(10, "six in a row", paid(x), 10, 10, 10, 10, 10, 5);
+        dueRow(11, "told", new long[] {x.told(0), x.told(4), x.told(5), x.told(6), x.told(7), x.told(8)},
+            6, 6, 0, 5, 6, 5);
+        dueRow(9, "ring 5", ringOf(x, 5), 32, 5, 5, 5);
+        dueRow(6, "5", new long[] {x.of(5, 4), x.of(5, 5), x.of(5, 6), x.of(5, 7)}, 16, 31, 32, 5);
+        dueRow(13, "7 back", nets(x, 7), 10, 10, 10, 10, 8, 0);
+        dueRow(12, "5 pays all that is left", reasons(x, 5), 0, ABSENT, ABSENT, ABSENT);
+        x.loss(50);
+        dueRow(12, "nothing is left", reasons(x, 5), 1, 4, 10, ABSENT);
+        due(15, "from(5)", x.from(5), 51);
+        dueRow(19, "mean", new long[] {x.mean(0), x.mean(1)}, 10, 1);
+        x.plan(3, 1);
+        due(21, "each keeps 1", x.ends(0), 49);
+        x.refer(0, 5, true);
+        dueRow(10, "a ring of six", paid(x), 9, 9, 8, 8, 8, 8);
+        dueRow(9, "ring 0", ringOf(x, 0), 63, 0, 50, 50);
+        dueRow(13, "40 back", nets(x, 40), 2, 2, 1, 1, 2, 2);
+        // limits 1 to 6: one drops out behind each round
+        for (int c = 0; c < 6; c++) {
+            x.renew(c, 1, c + 1);
+        }
+        dueRow(10, "each its most", paid(x), 1, 2, 3, 4, 5, 6);
+        x.loss(20);
+        dueRow(10, "one short", paid(x), 1, 2, 3, 4, 5, 5);
+        due(21, "each keeps 1", x.ends(0), 20);
+        for (int row = 0; row < 6; row++) {
+            x.book(row, row + 1);
+        }
+        due(23, "looked", x.looked(), 5);
+        x.tape(0, 3, 60);
+        for (int c = 0; c < 6; c++) {
+            x.item(0, 54 + c, x.pays(c));
+        }
+        due(24, "judged to the end", x.judge(0, 54), ABSENT);
+        due(24, "a row ends", x.judge(0, 59), 0);
+    }
+
+    /** Payments of 1, and contract 0 where a search ends with it. */
+    private static void onesAndFirsts() {
+        ClaimLadder x = with("c01,0;c210,0;c09,0;r10;l10");
+        dueRow(10, "one that pays 1 lets an escape", paid(x), 1, 0, 9);
+        dueRow(12, "by 1", reasons(x, 1), 1, 2, 9, ABSENT);
+        x.loss(1);
+        dueRow(12, "0, that pays 1", reasons(x, 1), 1, 0, 1, ABSENT);
+        dueRow(12, "0, that pays 1", reasons(x, 2), 1, 0, 1, ABSENT);
+        dueRow(18, "1 is more than 0", odds(x, 0), 1, 1);
+        dueRow(19, "1 by 1", new long[] {x.mean(0), x.mean(1)}, 1, 1);
+        x.loss(8);
+        due(13, "net looks at the loss of now", x.net(2, 3), 4);
+        x.plan(3, 2);
+        x.plan(1, 2);
+        // 0 pays 1 of 8, 1 escapes
+        due(21, "retention of 0", x.ends(0), 1);
+        x.loss(2);
+        due(21, "retention of 0", x.ends(0), 0);
+        x.tape(0, 3, 1);
+        x.item(0, 0, 9);
+        x.tape(0, 3, 1);
+        due(28, "all 0, the first too", x.peek(0, 0), 0);
+        ClaimLadder y = with("c02,0;c090,10;r10;l1");
+        dueRow(12, "a ring behind it", reasons(y, 1), 1, 0, 1, ABSENT);
     }
 }
