@@ -480,7 +480,6 @@ public final class ClaimLadder {
             limit[size] = most;
             retention[size] = kept;
             quota[size] = WHOLE_QUOTA;
-            // an undone contract may have left its references here
             refers[size] = 0;
             size++;
             return size - 1;
