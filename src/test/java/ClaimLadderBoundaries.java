@@ -462,7 +462,7 @@ public final class ClaimLadderBoundaries {
     // ---- promise 6
 
     private static void ofTests() {
-        says(6, "what 0 KIND, 1 LIMIT, 2 RETENTION, 3 QUOTA, 4 BITS .. 9 what it PAYS. NONE.");
+        says(6, "9 what it PAYS. NONE.");
         for (int what : new int[] {-1, 10, 11, LEAST, GREATEST}) {
             refused("of(0, " + what + ")", NONE, x -> x.of(0, what));
         }
@@ -524,6 +524,10 @@ public final class ClaimLadderBoundaries {
         ClaimLadder y = with("c01,0;c01,0;c01,0;c01,0;c01,0;c01,0;r01;r12;r23;r34;r45");
         dueRow("as high as it gets", row(6, c -> y.of(c, 7)), 5, 4, 3, 2, 1, 0);
         dueRow("of the ring, not of itself", new long[] {y.refer(0, 5, true), y.of(0, 7)}, 0, 5);
+        ClaimLadder z = with("c01,0;c01,0;c01,0;c01,0;r01;r10;r02;r12");
+        dueRow("two of a ring to one alone", row(4, c -> z.of(c, 7)), 1, 1, 0, 0);
+        due("all of a ring to one alone", read(z, "r03;r30;r32"), 3);
+        dueRow("all of a ring to one alone", row(4, c -> z.of(c, 7)), 1, 1, 0, 1);
     }
 
     private static void lefts() {
@@ -722,14 +726,15 @@ public final class ClaimLadderBoundaries {
 
     private static void readEndsTooEarly() {
         says(8, "the end of THE TEXT, if it ends too early");
+        String eleven = "l1;".repeat(11);
         for (String text : new String[] {"", "c", "c0", "c01,", "c012,", "r", "r0", "n", "n0", "q", "q0", "l", "l1;",
-            "c01,1;", "c01", "c012", "l1;l2;c", "l1;l2;l3;l4;l5;l6;l7;l8;l9;l1;l2;", "l1;l2;l3;l4;l5;l6;l7;l8;l9;l1;l2;q0"}) {
+            "c01,1;", "c01", "c012", "l1;l2;c", eleven, eleven + "q0"}) {
             fault(text, text.length());
         }
         says(8, "if it ends too early");
         ClaimLadder x = new ClaimLadder();
-        for (String[] two : new String[][] {{"c012,34", "c0"}, {"c012,34", "c012"}, {"c012,34", "c012,"}, {"r01", "r0"}, {"q0100", "q0"},
-            {"l1;l2", "l1;"}, {"l100", "l"}}) {
+        for (String[] two : new String[][] {{"c012,34", "c0"}, {"c012,34", "c012"}, {"c012,34", "c012,"},
+            {"r01", "r0"}, {"q0100", "q0"}, {"l1;l2", "l1;"}, {"l100", "l"}}) {
             read(x, two[0]);
             due("'" + two[1] + "' behind '" + two[0] + "'", read(x, two[1]), -10 - two[1].length());
         }
@@ -2124,7 +2129,7 @@ public final class ClaimLadderBoundaries {
             shiftRefused("j " + v, PLACE, x -> x.shift(0, 0, 1, v, 1));
             shiftRefused("all " + v, PLACE, x -> x.shift(0, v, 1, v, v));
         }
-        says(31, "n items of a TAPE from i on come to another one (or the same) from j on: n");
+        says(31, "n items of a TAPE from i on come to another one (or the same) from j on");
         ClaimLadder x = rows(LONGS);
         due("none", x.shift(0, 0, 1, 0, 0), 0);
         due("none, at both ends", x.shift(0, 5, 1, 3, 0), 0);
